@@ -236,7 +236,7 @@ public final class BluesAndGreens {
         if (n > 0) {
             past.push(before);
         }
-        told.tell(runs.last, runs.joined);
+        told.tellTwo(runs.last, runs.joined);
         return blue;
     }
 
@@ -289,7 +289,7 @@ public final class BluesAndGreens {
         if (done > 0) {
             past.push(before);
         }
-        told.tell(done < count ? 1 : 0, now.areJoined(city) ? 1 : 0);
+        told.tellTwo(done < count ? 1 : 0, now.areJoined(city) ? 1 : 0);
         return done;
     }
 
@@ -347,7 +347,7 @@ public final class BluesAndGreens {
         }
         trial.copy(now);
         int blue = runs.run(city, trial, theRule, n);
-        told.tell(runs.mostBlue, runs.mostGreen, runs.joined);
+        told.tellThree(runs.mostBlue, runs.mostGreen, runs.joined);
         return blue;
     }
 
@@ -355,7 +355,7 @@ public final class BluesAndGreens {
         trial.copy(now);
         for (int races = 0; races <= 99; races++) {
             if (trial.areJoined(city)) {
-                told.tell(trial.angerOf(BLUE), trial.angerOf(GREEN));
+                told.tellTwo(trial.angerOf(BLUE), trial.angerOf(GREEN));
                 return races;
             }
             if (trial.runRace(city, theRule) == NONE) {
@@ -370,7 +370,7 @@ public final class BluesAndGreens {
             return NONE;
         }
         if (wins(now, club)) {
-            told.tell(NONE);
+            told.tellOne(NONE);
             return 0;
         }
         int best = NONE;
@@ -384,7 +384,7 @@ public final class BluesAndGreens {
         if (best == NONE) {
             return -2;
         }
-        told.tell(best);
+        told.tellOne(best);
         return city.price[best];
     }
 
@@ -409,7 +409,7 @@ public final class BluesAndGreens {
         if (best == NONE) {
             return -2;
         }
-        told.tell(best);
+        told.tellOne(best);
         return fewest;
     }
 
@@ -445,7 +445,7 @@ public final class BluesAndGreens {
                 cost = price;
             }
         }
-        told.tell(best, cost);
+        told.tellTwo(best, cost);
         return most;
     }
 
@@ -455,7 +455,7 @@ public final class BluesAndGreens {
         int open = now.openQuarrels(city);
         for (int sides = 0; sides < SETS; sides++) {
             if ((sides & ~open) == 0 && !joinBySides(sides)) {
-                told.tell(trial.angerOf(BLUE), trial.angerOf(GREEN));
+                told.tellTwo(trial.angerOf(BLUE), trial.angerOf(GREEN));
                 return sides;
             }
         }
@@ -492,7 +492,7 @@ public final class BluesAndGreens {
                 greater = high;
             }
         }
-        told.tell(lesser, greater);
+        told.tellTwo(lesser, greater);
         return best;
     }
 
@@ -504,7 +504,7 @@ public final class BluesAndGreens {
                 ways++;
             }
         }
-        told.tell(open);
+        told.tellOne(open);
         return ways;
     }
 
@@ -526,7 +526,7 @@ public final class BluesAndGreens {
         if (worst == NONE) {
             return -2;
         }
-        told.tell(most, side);
+        told.tellTwo(most, side);
         return worst;
     }
 
@@ -543,7 +543,7 @@ public final class BluesAndGreens {
             return NONE;
         }
         int rioting = city.spread(some, 0);
-        told.tell(Integer.bitCount(rioting), city.crowdsOf(rioting));
+        told.tellTwo(Integer.bitCount(rioting), city.crowdsOf(rioting));
         return rioting;
     }
 
@@ -555,7 +555,7 @@ public final class BluesAndGreens {
                 best = some;
             }
         }
-        told.tell(best);
+        told.tellOne(best);
         return Integer.bitCount(best);
     }
 
@@ -571,7 +571,7 @@ public final class BluesAndGreens {
                 best = calmed;
             }
         }
-        told.tell(best);
+        told.tellOne(best);
         return Integer.bitCount(best);
     }
 
@@ -592,7 +592,7 @@ public final class BluesAndGreens {
                 most = crowd;
             }
         }
-        told.tell(best, city.keptIn(those, best));
+        told.tellTwo(best, city.keptIn(those, best));
         return most;
     }
 
@@ -608,7 +608,7 @@ public final class BluesAndGreens {
                 any |= city.gatesOf[quarter];
             }
         }
-        told.tell(any);
+        told.tellOne(any);
         return all;
     }
 
@@ -655,7 +655,7 @@ public final class BluesAndGreens {
     private void tellFraction(long upper, long lower) {
         long common = commonDivisor(upper, lower);
         if (common > 0) {
-            told.tell(upper / common, lower / common);
+            told.tellTwo(upper / common, lower / common);
         }
     }
 
@@ -682,7 +682,7 @@ public final class BluesAndGreens {
 
     public int fits() {
         int fitting = hearsay.fitting(city);
-        told.tell(Integer.bitCount(fitting), city.crowdsOf(fitting));
+        told.tellTwo(Integer.bitCount(fitting), city.crowdsOf(fitting));
         return fitting;
     }
 
@@ -701,7 +701,7 @@ public final class BluesAndGreens {
                 fewest = left;
             }
         }
-        told.tell(fewest);
+        told.tellOne(fewest);
         return best;
     }
 
@@ -720,7 +720,7 @@ public final class BluesAndGreens {
                 }
                 pairs++;
                 if (pairs == 1) {
-                    told.tell(x, y);
+                    told.tellTwo(x, y);
                 }
             }
         }
@@ -756,7 +756,7 @@ public final class BluesAndGreens {
         int byOther = runs.run(city, trial, otherRule, 20);
         trial.copy(now);
         int byRule = runs.run(city, trial, theRule, 20);
-        told.tell(byOther, byRule);
+        told.tellTwo(byOther, byRule);
         return byOther - byRule;
     }
 
@@ -775,7 +775,7 @@ public final class BluesAndGreens {
             blue += drawnYear();
             joined += trial.areJoined(city) ? 1 : 0;
         }
-        told.tell(trial.moneyOf(BLUE), trial.moneyOf(GREEN), joined);
+        told.tellThree(trial.moneyOf(BLUE), trial.moneyOf(GREEN), joined);
         return blue;
     }
 
@@ -946,23 +946,23 @@ public final class BluesAndGreens {
             }
         }
 
-        void tell(long first) {
+        void tellOne(long first) {
             clear();
             add(first);
         }
 
-        void tell(long first, long second) {
-            tell(first);
+        void tellTwo(long first, long second) {
+            tellOne(first);
             add(second);
         }
 
-        void tell(long first, long second, long third) {
-            tell(first, second);
+        void tellThree(long first, long second, long third) {
+            tellTwo(first, second);
             add(third);
         }
     }
 
-    /** What texts tell and no season changes. Cells behind a count hold nothing that is asked for. */
+    /** What texts tell and no season changes. Cells behind a count tell of nothing yet. */
     private static final class City {
         int drivers;
         final int[] skill;
@@ -1057,7 +1057,7 @@ public final class BluesAndGreens {
             return some;
         }
 
-        /** Who riots in the end. Each round but the last adds a QUARTER, so there are few rounds. */
+        /** Who riots in the end. Each round but the last adds a QUARTER: there are few. */
         int spread(int some, int calmed) {
             int rioting = some & ~calmed;
             for (int round = 0; round <= MOST; round++) {
@@ -1081,7 +1081,7 @@ public final class BluesAndGreens {
         }
     }
 
-    /** What a season changes, undo() undoes and keep() keeps: one row, so that it is copied at once. */
+    /** What a season changes, undo() undoes and keep() keeps: a row that is copied at once. */
     private static final class State {
         static final int MONEY = 0;
         static final int ANGER = 2;
@@ -1396,32 +1396,18 @@ public final class BluesAndGreens {
             int top = 0;
             for (int i = 0; i < size && i < code.length; i++) {
                 int one = code[i];
-                if (one >= SIGN && top >= 1) {
-                    top = joinOnStack(one - SIGN, top);
-                } else if (top < stack.length) {
+                if (one < SIGN && top < stack.length) {
                     int thing = one - THING;
                     stack[top] = thing >= 0 && thing < things.length ? things[thing] : one;
                     top++;
+                } else if (one == SIGN + NEGATE && top > 0) {
+                    stack[top - 1] = -stack[top - 1];
+                } else if (one >= SIGN && top > 1) {
+                    top--;
+                    stack[top - 1] = joinTwo(one - SIGN, stack[top - 1], stack[top]);
                 }
             }
             return stack[0];
-        }
-
-        /** Works a sign out on the things that are topmost: how many there are then. */
-        private int joinOnStack(int sign, int top) {
-            if (top < 1 || top > stack.length) {
-                return 0;
-            }
-            int last = stack[top - 1];
-            if (sign == NEGATE) {
-                stack[top - 1] = -last;
-                return top;
-            }
-            if (top < 2) {
-                return top;
-            }
-            stack[top - 2] = joinTwo(sign, stack[top - 2], last);
-            return top - 1;
         }
 
         private static int joinTwo(int sign, int a, int b) {
@@ -1624,7 +1610,7 @@ public final class BluesAndGreens {
         }
     }
 
-    /** Reads THE TEXT as a RULE: a sign waits till all that binds more, or is ahead, was worked out. */
+    /** Reads THE TEXT as a RULE: a sign waits till one comes that binds no more than it. */
     private static final class RuleReader {
         static final int DEEPEST = 4;
 
