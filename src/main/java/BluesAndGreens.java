@@ -10,7 +10,6 @@ public final class BluesAndGreens {
 
     private static final int BLUE = 0;
     private static final int GREEN = 1;
-    private static final int CLUBS = 2;
     private static final int MOST = 8;
     private static final int SETS = 1 << MOST;
     private static final int GATES = 9;

@@ -752,6 +752,9 @@ public final class PromiseTests {
         due("bribe(0) with too little", z.bribe(0), -2);
         rowIs("order(), the ROW being as it was", z, 0, 1);
         due("bribe(0) without DRIVERS", new BluesAndGreens().bribe(0), -2);
+        BluesAndGreens all = city("595g;110b", "", "");
+        all.curse(0, 0);
+        due("bribe(0) for all that it has", all.bribe(0), 95);
         BluesAndGreens m = city("150g;150g;150b", "", "");
         rule(m, "m");
         due("bribe(0): MONEY is paid, and counts", m.bribe(0), -2);
@@ -800,6 +803,19 @@ public final class PromiseTests {
         due("lead(0)", z.lead(0), 0);
         due("lead(1): all three, of equal ones the first being its own", z.lead(1), 3);
         due("lead(0) without DRIVERS", new BluesAndGreens().lead(0), -2);
+        BluesAndGreens all = city(times("165g;", 7) + "110b", "", "");
+        rule(all, "s-c");
+        all.buy(0, 0);
+        all.sheet(2, 0, 0, 0);
+        all.buy(1, 0);
+        due("MONEY", all.club(0, 0), 35);
+        due("lead(0) by seven, for all that it has", all.lead(0), 7);
+        rowIs("lead(0) by seven", all, 127);
+        all.sheet(2, 1, 1, 0);
+        all.buy(0, 0);
+        all.sheet(2, 0, 0, 0);
+        all.buy(1, 0);
+        due("lead(0) with 1 too little", all.lead(0), -2);
         BluesAndGreens w = city("510g;510b;510b", "", "");
         rule(w, "(o*2+m)*(c<1)");
         due("lead(1) of MONEY that goes on being enough", w.lead(1), 0);
@@ -1134,6 +1150,9 @@ public final class PromiseTests {
         due("ask() of none", x.ask(), -2);
         rowIs("ask(): the ROW is as it was", x, 1);
         due("no QUARTERS", new BluesAndGreens().ask(), -2);
+        BluesAndGreens y = city("", times("1b1;", 7) + "1b1", "");
+        due("ask() where nothing tells them apart", y.ask(), 0);
+        rowIs("ask() where nothing tells them apart", y, 8);
     }
 
     // ---- bids, rules, years
