@@ -225,6 +225,9 @@ public final class ChanceEdgeTests extends Edges {
             BluesAndGreens z = city("", times("1b0abcdefghi;", 3) + "1b0abcdefghi", "");
             due("ask(), all having all", z.ask(), 0);
             row("ask(), all having all", z, 4);
+            BluesAndGreens w = city("", times("1b0;", 7) + "1b0", "");
+            due("ask(), all eight having none", w.ask(), 0);
+            row("ask(), all eight having none", w, 8);
         });
     }
 

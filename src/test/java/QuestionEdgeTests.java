@@ -331,6 +331,13 @@ public final class QuestionEdgeTests extends Edges {
             due("one of 2", x.stable(0), 2);
             row("one of 2, the cheapest", x, 8, 60);
         });
+        edge(28, "DRIVERS of the other one, for either CLUB", () -> {
+            BluesAndGreens x = city("310b;520g;740b;960g", "", "");
+            due("stable(0)", x.stable(0), 14);
+            row("stable(0)", x, 10, 80);
+            due("stable(1)", x.stable(1), 10);
+            row("stable(1)", x, 5, 50);
+        });
         edge(28, "for nothing: all", () -> {
             BluesAndGreens x = city(times("90g;", 7) + "90g", "", "");
             due("all eight", x.stable(0), 72);
@@ -692,6 +699,13 @@ public final class QuestionEdgeTests extends Edges {
             row("gates(15, 1)", x, 4, 2);
             due("gates(8, 9)", x.gates(8, 9), 5);
             row("gates(8, 9): the ninth GATE alone", x, 256, 8);
+        });
+        edge(36, "the first GATE alone, and none", () -> {
+            BluesAndGreens x = quarters("9b0a;8b0b");
+            due("with none", x.gates(3, 0), 0);
+            row("with none", x, 0, 0);
+            due("with one", x.gates(3, 1), 9);
+            row("with one", x, 1, 1);
         });
         edge(36, "one is kept in, if all its GATES are held", () -> {
             BluesAndGreens x = quarters("9b0abc");

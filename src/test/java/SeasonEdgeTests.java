@@ -395,6 +395,8 @@ public final class SeasonEdgeTests extends Edges {
             BluesAndGreens x = city("", "", times("0000;", 7) + "1111");
             due("s70", season(x, "s70s01"), 2);
             due("QUARRELS shown", x.count(7), 129);
+            due("the side of QUARREL 7", x.quarrel(7, 4), 0);
+            due("the side of QUARREL 0", x.quarrel(0, 4), 1);
             due("s80 can't be", season(x, "s11s80"), 1);
             row("s80 can't be", x, 1, 0);
         });
@@ -405,6 +407,23 @@ public final class SeasonEdgeTests extends Edges {
                 }
             }
             wrongAll(Edges::rich, SEASON, ";", 0, "r1;r1", 2, "R1", 0, "0", 0, (char) 0 + "r1", 0);
+        });
+        edge(21, "the first digit and the second one of each ACT", () -> {
+            BluesAndGreens x = city("530b;230g;230g", "", "1234;5678");
+            due("all six", season(x, "b01c11d1s11g14r2"), 6);
+            row("all six", x, 0, 0);
+            // 100 - 30 - 3 + 20 and 100 + 30 - 5; 6 - 2 and 8 - 4 + 6
+            int[][] clubs = {{87, 4, 2, 3}, {125, 10, 0, 4}};
+            for (int i = 0; i < 8; i++) {
+                due("club(" + i / 4 + ", " + i % 4 + ")", x.club(i / 4, i % 4), clubs[i / 4][i % 4]);
+            }
+            due("QUARRELS shown", x.count(7), 2);
+            due("the side", x.quarrel(1, 4), 1);
+            due("CURSED ones", x.count(6), 0);
+            due("another curse, another side", season(x, "c02s00"), 2);
+            due("CURSED ones", x.count(6), 4);
+            due("the side", x.quarrel(0, 4), 0);
+            due("MONEY of blue", x.club(0, 0), 82);
         });
         edge(21, "60 signs can stand, not 61", () -> {
             BluesAndGreens x = city("10b", "", "");

@@ -160,6 +160,42 @@ public final class TextEdgeTests extends Edges {
         });
     }
 
+    private static void eight() {
+        edge(0, "DRIVERS at most 8, QUARRELS at most 8: each has what is its own", () -> {
+            BluesAndGreens x = city("10b;20g;30b;40g;50b;60g;70b;80g", "", times("0000;", 7) + "0000");
+            x.curse(1, 0);
+            x.curse(1, 6);
+            x.curse(0, 7);
+            for (int i = 0; i < 8; i++) {
+                rule(x, "i=" + i);
+                x.race(i + 1);
+                if (i % 3 > 0) {
+                    x.show(i, i % 3 - 1);
+                }
+            }
+            int[] sides = {NONE, 0, 1, NONE, 0, 1, NONE, 0};
+            for (int i = 0; i < 8; i++) {
+                due("SKILL of DRIVER " + i, x.driver(i, 0), i + 1);
+                due("the CLUB of DRIVER " + i, x.driver(i, 2), i % 2);
+                due("DRIVER " + i + " is CURSED", x.driver(i, 3), i == 0 || i > 5 ? 1 : 0);
+                due("WON of DRIVER " + i, x.driver(i, 4), i + 1);
+                due("the side of QUARREL " + i, x.quarrel(i, 4), sides[i]);
+            }
+            due("WINS of blue", x.club(0, 2), 1 + 3 + 5 + 7);
+            due("WINS of green", x.club(1, 2), 2 + 4 + 6 + 8);
+            due("RACE", x.count(4), 36);
+        });
+        edge(0, "QUARTERS at most 8: each has what is its own", () -> {
+            BluesAndGreens x = city("", "1b0a;2g1b;3b2c;4g3d;5b4e;6g5f;7b6g;8g7h", "");
+            for (int i = 0; i < 8; i++) {
+                int[] due = {i + 1, i % 2, i, 1 << i};
+                for (int what = 0; what < 4; what++) {
+                    due("quarter(" + i + ", " + what + ")", x.quarter(i, what), due[what]);
+                }
+            }
+        });
+    }
+
     private static void rows() {
         edge(0, "ROW: numbers told last by a call that says so", () -> {
             BluesAndGreens x = rich();
@@ -491,7 +527,7 @@ public final class TextEdgeTests extends Edges {
         edge(5, "ahead of 76 the first sign that can't stand is told, also if it has more", () -> {
             String five = times(FULL_QUARTER, 5);
             wrongAll(BluesAndGreens::new, QUARTERS, five + "99g9gg;", 75, five + "99g9gx;;", 75, five + "99x9gi9", 72, five + "9g9;00b0", 75,
-                five + "9g9;0b00", 74, "x" + five, 0, five + "99g9;", 75, five + "99g9g;", 76, five + "9g9;9b", 76);
+                five + "9g9;0b00", 74, "x" + five, 0, five + "99g9;", 75, five + "99g9g;", 76, five + "9g9;9b", 76, five + "9g9a;0", 75, five + "9g9;00", 75);
         });
         edge(5, "the first sign of a LINE for which there is no room", () -> {
             String seven = times("1b1;", 6) + "1b1";
@@ -646,6 +682,20 @@ public final class TextEdgeTests extends Edges {
             }
             wrongAll(TextEdgeTests::ruled, RULE, "+s", 0, "*s", 0, "/s", 0, "2*+3", 2, "-+s", 1, "s-*c", 2);
         });
+        edge(7, "what can't stand leaves nothing for the next one", () -> {
+            BluesAndGreens x = ruled();
+            String[] wrong = {"((((s", "s<", "--(", "2*(3-", "s=c=", "1-(2*("};
+            int[] places = {5, 2, 3, 5, 3, 6};
+            for (int i = 0; i < wrong.length; i++) {
+                due("rule() of " + wrong[i], rule(x, wrong[i]), -1 - places[i]);
+                due("STRENGTH by THE RULE that was", x.strength(0), i == 0 ? 35 : 4);
+                due("rule() with four in one another", rule(x, "((((s))))-(1<2)"), 0);
+                due("STRENGTH", x.strength(0), 4);
+                due("rule() of one behind another", rule(x, "(s)<(s-1)"), 0);
+                due("STRENGTH", x.strength(0), 0);
+                due("rule()", rule(x, "s-1"), 0);
+            }
+        });
         edge(7, "things are s c i w n o m a, no others", () -> {
             BluesAndGreens x = ruled();
             for (char thing = 'a'; thing <= 'z'; thing++) {
@@ -681,8 +731,9 @@ public final class TextEdgeTests extends Edges {
         });
         edge(9, "< > = (1 or 0)", () -> {
             BluesAndGreens x = city("50b", "", "");
-            String[] rules = {"4<5", "5<5", "6<5", "4>5", "5>5", "6>5", "4=5", "5=5", "6=5", "-1<0", "0>-1", "512*512*512*16<0", "512*512*512*16-1>0"};
-            int[] due = {1, 0, 0, 0, 0, 1, 0, 1, 0, 1, 1, 1, 1};
+            String[] rules = {"4<5", "5<5", "6<5", "4>5", "5>5", "6>5", "4=5", "5=5", "6=5", "-1<0", "0>-1",
+                "512*512*512*16<1", "512*512*512*16-1>-1", "512*512*512*16=0"};
+            int[] due = {1, 0, 0, 0, 0, 1, 0, 1, 0, 1, 1, 1, 1, 0};
             for (int i = 0; i < rules.length; i++) {
                 due("STRENGTH by " + rules[i], by(x, rules[i], 0), due[i]);
             }
@@ -941,6 +992,7 @@ public final class TextEdgeTests extends Edges {
         money();
         anger();
         racing();
+        eight();
         rows();
         questions();
         newObject();
