@@ -1548,12 +1548,9 @@ public final class BluesAndGreens {
         }
 
         private int crowdNumber() {
-            int start = at;
             int crowd = number(2);
             if (crowd == 0) {
-                // a lone 0, last of the signs that may be read, could have gone on to 01 .. 09
-                boolean couldGoOn = at == start + 1 && at == most && at < text.length;
-                failAt(couldGoOn ? at : at - 1);
+                failAt(at - 1);
             }
             return crowd;
         }

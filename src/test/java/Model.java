@@ -131,10 +131,10 @@ final class Model {
         }
         int wrong = wrongLine("(?:0[1-9]|[1-9][0-9]?)[bg][0-9]a?b?c?d?e?f?g?h?i?", 8 - quarters.size(), t, 76);
         if (wrong >= 0) {
-            // CROWD 0 is wrong at its last digit: a lone 0 is wrong itself, unless the signs ran out
-            boolean lone = wrong > 0 && t.charAt(wrong - 1) == '0' && (wrong == 1 || t.charAt(wrong - 2) == ';');
-            boolean ranOut = wrong == 76 && t.length() > 76;
-            return -1 - (lone && !ranOut && !(wrong < t.length() && t.charAt(wrong) == '0') ? wrong - 1 : wrong);
+            // CROWD 0 is wrong at its last digit: a 0 behind which no other one can be read is wrong itself
+            boolean first = wrong > 0 && t.charAt(wrong - 1) == '0' && (wrong == 1 || t.charAt(wrong - 2) == ';');
+            boolean second = wrong < Math.min(76, t.length()) && t.charAt(wrong) == '0';
+            return -1 - (first && !second ? wrong - 1 : wrong);
         }
         String[] told = t.split(";");
         for (String s : told) {

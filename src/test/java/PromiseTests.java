@@ -183,7 +183,7 @@ public final class PromiseTests {
             "5b5a ", "5b5;0", "5b5;0g1", "5b5;00", times("1b0;", 9) + "1b0", times("1b0;", 8), times(full, 5) + "99b0abcd",
             times(full, 5) + "99b0aba", times(full, 5) + "99b0;00b0", times(full, 5) + "9b0a;0b0", times(full, 5) + "9b0a;0",
             times(full, 5) + "9b0a;05b0", times(full, 5) + "9b0;00b0", times(full, 5) + "9b0;0b0"};
-        int[] places = {0, 0, 1, 0, 0, 1, 1, 2, 4, 4, 4, 3, 2, 2, 3, 4, 4, 4, 5, 32, 32, 76, 76, 76, 76, 75, 76, 75, 74};
+        int[] places = {0, 0, 1, 0, 0, 1, 1, 2, 4, 4, 4, 3, 2, 2, 3, 4, 4, 4, 5, 32, 32, 76, 76, 75, 75, 75, 75, 75, 74};
         for (int i = 0; i < texts.length; i++) {
             BluesAndGreens x = new BluesAndGreens();
             due("quarters() of " + texts[i], quarters(x, texts[i]), -1 - places[i]);

@@ -150,6 +150,19 @@ public final class TextEdgeTests extends Edges {
                 x.race(1);
             }
         });
+        edge(0, "at most 512 calls: RACE, WINS and WON have no most", () -> {
+            BluesAndGreens x = new BluesAndGreens();
+            x.sign('1' << 24 | '0' << 16 | 'b' << 8);
+            x.end(3);
+            x.drivers();
+            for (int call = 4; call <= 508; call++) {
+                x.race(60);
+            }
+            due("RACE, by call 509", x.count(4), 30300);
+            due("WINS, by call 510", x.club(0, 2), 30300);
+            due("WON, by call 511", x.driver(0, 4), 30300);
+            due("STRENGTH, by call 512", x.strength(0), 10 + 30300 % 8 / 3);
+        });
         edge(0, "Curses go on", () -> {
             BluesAndGreens x = city("50b;10g", "", "");
             x.curse(1, 0);
@@ -522,12 +535,17 @@ public final class TextEdgeTests extends Edges {
         edge(5, "76, if it has more and the first 76 could go on or end", () -> {
             String five = times(FULL_QUARTER, 5);
             wrongAll(BluesAndGreens::new, QUARTERS, five + "99g9ghxxxx", 76, five + "99g9gha", 76, five + "99g9g;1", 76,
-                five + "99g9;11", 76, five + "9g9;1b", 76, five + "9g9;1b0", 76, five + "9g9ab;", 76, five + "9g9ab;x", 76, five + "9g9a;01b1", 76);
+                five + "99g9;11", 76, five + "9g9;1b", 76, five + "9g9;1b0", 76, five + "9g9ab;", 76, five + "9g9ab;x", 76);
         });
         edge(5, "ahead of 76 the first sign that can't stand is told, also if it has more", () -> {
             String five = times(FULL_QUARTER, 5);
             wrongAll(BluesAndGreens::new, QUARTERS, five + "99g9gg;", 75, five + "99g9gx;;", 75, five + "99x9gi9", 72, five + "9g9;00b0", 75,
                 five + "9g9;0b00", 74, "x" + five, 0, five + "99g9;", 75, five + "99g9g;", 76, five + "9g9;9b", 76, five + "9g9a;0", 75, five + "9g9;00", 75);
+        });
+        edge(5, "CROWD 0: at its last digit, also if that is the last of the first 76", () -> {
+            String five = times(FULL_QUARTER, 5);
+            wrongAll(BluesAndGreens::new, QUARTERS, five + "9g9a;0", 75, five + "9g9a;0b1", 75, five + "9g9a;01b1", 75, five + "9g9a;00b1", 75,
+                five + "9g9;00b1", 75, five + "9g9;01b1", 76, five + "9g9;1b01", 76);
         });
         edge(5, "the first sign of a LINE for which there is no room", () -> {
             String seven = times("1b1;", 6) + "1b1";
